@@ -1,5 +1,9 @@
 import java.util.Arrays;
 
+/**
+ * The face only looks at arguments and says refusals and findings; the classes inside find the answers.
+ * All rows and towns are made here, once: the calls of all objects share one room, so no call makes any.
+ */
 public final class HatOrders {
     public static final int NONE = -1000000, BAD = -1000001, STATE = -1000002, FULL = -1000003;
 
@@ -300,8 +304,7 @@ public final class HatOrders {
         }
         int good = Integer.bitCount(foresight.windsThatBring(head, d));
         int all = Town.MOST_WIND + 1;
-        int shared = commonDivisor(good, all);
-        return (what == 0 ? good : all) / shared;
+        return what == 0 ? inLowestTerms(good, good, all) : inLowestTerms(all, good, all);
     }
 
     public int seen(int row, int i, int n, int what) {
@@ -445,14 +448,14 @@ public final class HatOrders {
         return least <= v && v <= most;
     }
 
-    /** At least 1; of 0 and a number it is that number, so that 0 is told as 0 by 1. */
-    private static int commonDivisor(int above, int below) {
+    /** A part (above or below) of a fraction; below divides 0, too, so that 0 is told as 0 by 1. */
+    private static int inLowestTerms(int part, int above, int below) {
         for (int shared = below; shared > 1; shared--) {
             if (above % shared == 0 && below % shared == 0) {
-                return shared;
+                return part / shared;
             }
         }
-        return 1;
+        return part;
     }
 
     /** A ROW keeps room for all its ITEMS from the start, so that no call makes an array. */

@@ -100,6 +100,7 @@ public final class ForetoldPromisesTest {
         dueRound("h0;f3,0;", 3, 0);
         dueRound("h0;w1,0;f9,0;", 1, 0);
         dueRound("h0;f1,0;f1,0;o1;", 2, 0);
+        dueRound("h0;f2,0;f1,0;f1,0;f1,0;f1,0;f1,0;", 7, 0);
         dueRound("h0;f1,1;o40;", 41, 40);
         dueRound("h0;f1,1;o40;o40;", 41, 40);
         dueRound("h0;f1,3;o40;o19;", 60, 59);
