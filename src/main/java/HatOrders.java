@@ -33,7 +33,7 @@ public final class HatOrders {
         draft = new Town();
         present = new Town();
         acts = new Acts();
-        foresight = new Foresight(present);
+        foresight = new Foresight();
         asker = new Asker();
         images = new Town[IMAGES];
         for (int i = 0; i < IMAGES; i++) {
@@ -245,40 +245,40 @@ public final class HatOrders {
         if (isNoTown()) {
             return STATE;
         }
-        return isSpan(d) ? foresight.holderBehind(d) : BAD;
+        return isSpan(d) ? foresight.holderBehind(present, d) : BAD;
     }
 
     public int gets(int head) {
-        return present.hasHead(head) ? foresight.stepsUntilHolder(head) : BAD;
+        return present.hasHead(head) ? foresight.stepsUntilHolder(present, head) : BAD;
     }
 
     public int ever(int d) {
         if (isNoTown()) {
             return STATE;
         }
-        return isSpan(d) ? foresight.holdersWithin(d) : BAD;
+        return isSpan(d) ? foresight.holdersWithin(present, d) : BAD;
     }
 
     public int round(int what) {
         if (isNoTown()) {
             return STATE;
         }
-        return isBetween(what, 0, 1) ? foresight.repetition(what) : BAD;
+        return isBetween(what, 0, 1) ? foresight.repetition(present, what) : BAD;
     }
 
     public int done(int order) {
-        return present.hasOrder(order) ? foresight.stepOfDone(order) : BAD;
+        return present.hasOrder(order) ? foresight.stepOfDone(present, order) : BAD;
     }
 
     public int first() {
-        return isNoTown() ? STATE : foresight.orderDoneFirst();
+        return isNoTown() ? STATE : foresight.orderDoneFirst(present);
     }
 
     public int by(int head, int d) {
         if (!present.hasHead(head) || !isSpan(d)) {
             return BAD;
         }
-        return foresight.workWithin(head, d);
+        return foresight.workWithin(present, head, d);
     }
 
     public int toGive(int order, int what) {
@@ -288,21 +288,21 @@ public final class HatOrders {
         if (present.states[order] != Town.OUT) {
             return STATE;
         }
-        return foresight.bestGift(order, what);
+        return foresight.bestGift(present, order, what);
     }
 
     public int winds(int head, int d) {
         if (!present.hasHead(head) || !isSpan(d)) {
             return BAD;
         }
-        return foresight.windsThatBring(head, d);
+        return foresight.windsThatBring(present, head, d);
     }
 
     public int lot(int head, int d, int what) {
         if (!present.hasHead(head) || !isSpan(d) || !isBetween(what, 0, 1)) {
             return BAD;
         }
-        int good = Integer.bitCount(foresight.windsThatBring(head, d));
+        int good = Integer.bitCount(foresight.windsThatBring(present, head, d));
         int all = Town.MOST_WIND + 1;
         return what == 0 ? inLowestTerms(good, good, all) : inLowestTerms(all, good, all);
     }
@@ -318,7 +318,7 @@ public final class HatOrders {
         if (found != NO_FINDING) {
             return finding(found);
         }
-        return noFinding(foresight.giftsThatGoAs(rows[row], i, n, what));
+        return noFinding(foresight.giftsThatGoAs(present, rows[row], i, n, what));
     }
 
     public int keeps(int head, int row, int i, int n) {
@@ -329,7 +329,7 @@ public final class HatOrders {
         if (found != NO_FINDING) {
             return finding(found);
         }
-        return noFinding(foresight.keepsThatGoAs(head, rows[row], i, n));
+        return noFinding(foresight.keepsThatGoAs(present, head, rows[row], i, n));
     }
 
     public int image(int k) {
@@ -896,21 +896,16 @@ public final class HatOrders {
         private static final int NOT_KNOWN = -1;
         private static final int BITS_OF_HOLDER = 3, BITS_OF_LEFT = 6;
 
-        private final Town present;
         private final Town trial = new Town();
         private final long[] marks = new long[FARTHEST + 1];
 
-        Foresight(Town town) {
-            present = town;
-        }
-
-        int holderBehind(int d) {
+        int holderBehind(Town present, int d) {
             trial.becomeLike(present);
             go(d);
             return trial.holder;
         }
 
-        int stepsUntilHolder(int head) {
+        int stepsUntilHolder(Town present, int head) {
             trial.becomeLike(present);
             for (int n = 0; n <= FARTHEST; n++) {
                 if (trial.holder == head) {
@@ -921,7 +916,7 @@ public final class HatOrders {
             return NONE;
         }
 
-        int holdersWithin(int d) {
+        int holdersWithin(Town present, int d) {
             trial.becomeLike(present);
             int heads = 1 << trial.holder;
             for (int n = 0; n < d; n++) {
@@ -932,7 +927,7 @@ public final class HatOrders {
         }
 
         /** Behind how many STEPS (what is 0), or as behind how many fewer (1). */
-        int repetition(int what) {
+        int repetition(Town present, int what) {
             trial.becomeLike(present);
             marks[0] = markOfTrial();
             for (int n = 1; n <= FARTHEST; n++) {
@@ -946,7 +941,7 @@ public final class HatOrders {
             return NONE;
         }
 
-        int stepOfDone(int order) {
+        int stepOfDone(Town present, int order) {
             if (present.states[order] == Town.OUT) {
                 trial.becomeLike(present);
                 stepsUntilDone(order, FARTHEST);
@@ -956,7 +951,7 @@ public final class HatOrders {
         }
 
         /** No two are DONE on one STEP, so the first that is met is the one. */
-        int orderDoneFirst() {
+        int orderDoneFirst(Town present) {
             trial.becomeLike(present);
             for (int n = 0; n < FARTHEST; n++) {
                 int order = trial.takeStep();
@@ -967,14 +962,14 @@ public final class HatOrders {
             return NONE;
         }
 
-        int workWithin(int head, int d) {
+        int workWithin(Town present, int head, int d) {
             trial.becomeLike(present);
             go(d);
             return trial.worked[head] - present.worked[head];
         }
 
         /** To whom (what is 0), or behind how many STEPS (1). */
-        int bestGift(int order, int what) {
+        int bestGift(Town present, int order, int what) {
             int fewest = NEVER;
             int best = NONE;
             for (int head = 0; head < present.heads; head++) {
@@ -992,7 +987,7 @@ public final class HatOrders {
             return what == 0 ? best : fewest;
         }
 
-        int windsThatBring(int head, int d) {
+        int windsThatBring(Town present, int head, int d) {
             int winds = 0;
             for (int wind = 0; wind <= Town.MOST_WIND; wind++) {
                 trial.becomeLike(present);
@@ -1006,7 +1001,7 @@ public final class HatOrders {
         }
 
         /** How many (what is 0), or the least (1). */
-        int giftsThatGoAs(Row row, int i, int n, int what) {
+        int giftsThatGoAs(Town present, Row row, int i, int n, int what) {
             int many = 0;
             int least = NONE;
             for (int head = present.heads - 1; head >= 0; head--) {
@@ -1020,7 +1015,7 @@ public final class HatOrders {
             return what == 0 ? many : least;
         }
 
-        int keepsThatGoAs(int head, Row row, int i, int n) {
+        int keepsThatGoAs(Town present, int head, Row row, int i, int n) {
             int such = 0;
             for (int keeps = 1; keeps <= Town.MOST_KEEPS; keeps++) {
                 trial.becomeLike(present);

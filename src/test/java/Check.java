@@ -24,6 +24,21 @@ final class Check {
         due(call, holds ? 1 : 0, 1);
     }
 
+    /** What a call answers by one of its numbers, all else as it is. */
+    interface ByNumber {
+        int answer(int v);
+    }
+
+    /** The last numbers that are as told and the first that are not, on both sides, and the farthest. */
+    void dueOnlyBetween(String call, int least, int most, ByNumber byNumber) {
+        for (int v = least; v <= most; v++) {
+            due(call + " of " + v + " is answered", byNumber.answer(v) > BAD);
+        }
+        for (int v : new int[] {least - 1, most + 1, Integer.MIN_VALUE, Integer.MAX_VALUE}) {
+            due(call + " of " + v, byNumber.answer(v), BAD);
+        }
+    }
+
     /** The exit code is what .ci/run goes by. */
     void finish(String test) {
         System.out.println(test + ": " + answers + " answers, " + wrong + " not as due");

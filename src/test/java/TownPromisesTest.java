@@ -1,6 +1,3 @@
-import java.util.ArrayList;
-import java.util.List;
-
 /** Promises 6 to 17. */
 public final class TownPromisesTest {
     /** 0 firm, 1 a sneezer, 2 tall, 3 windy, 4 a brim; its STEPS are worked out by hand below. */
@@ -365,19 +362,29 @@ public final class TownPromisesTest {
         check.due("undo(), no town", new HatOrders().undo(), Check.STATE);
         HatOrders x = Check.townOf(FIVE);
         check.due("undo(), no act", x.undo(), Check.STATE);
-        List<String> faces = new ArrayList<>();
-        for (int n = 0; n < 12; n++) {
-            faces.add(Check.face(x));
-            act(x, n);
-        }
         for (int n = 11; n >= 0; n--) {
-            check.due("undo() of act " + n, x.undo(), n);
-            check.due("all is as ahead of act " + n, Check.face(x).equals(faces.get(n)));
+            HatOrders y = played(12);
+            for (int left = 11; left >= n; left--) {
+                check.due("undo() of act " + left, y.undo(), left);
+            }
+            check.due("all is as ahead of act " + n, Check.face(y).equals(Check.face(played(n))));
+        }
+        x = played(12);
+        for (int n = 0; n < 12; n++) {
+            x.undo();
         }
         check.due("undo(), all undone", x.undo(), Check.STATE);
         x.steps(5);
         check.due("undo() of the fifth step", x.undo(), 4);
         check.due("hat(3)", x.hat(3), 4);
+    }
+
+    private static HatOrders played(int acts) {
+        HatOrders x = Check.townOf(FIVE);
+        for (int n = 0; n < acts; n++) {
+            act(x, n);
+        }
+        return x;
     }
 
     private static void act(HatOrders x, int n) {
