@@ -56,6 +56,9 @@ public final class ModelTest {
             if (chance(12) && !feedsAlike(reals, models)) {
                 return false;
             }
+            if (calls.size() == CALLS) {
+                break;
+            }
             int which = draw(reals.length);
             String name = reals[which].getName();
             if (name.equals("town") || name.equals("feed") && !chance(4) || name.equals("drop") && !chance(3)) {
@@ -70,6 +73,10 @@ public final class ModelTest {
 
     private boolean feedsAlike(Method[] reals, Method[] models) throws ReflectiveOperationException {
         String text = text();
+        // No object has more than 512 calls: what it would answer then is free.
+        if (calls.size() + text.length() + 2 > CALLS) {
+            return true;
+        }
         for (int i = 0; i < text.length(); i++) {
             if (!isAlike(named(reals, "feed"), named(models, "feed"), new Object[] {(int) text.charAt(i)})) {
                 return false;

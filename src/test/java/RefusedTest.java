@@ -135,7 +135,7 @@ public final class RefusedTest {
             x.steps(20);
         }
         x.steps(5);
-        while (x.count(7) < 120) {
+        for (int n = 0; n < 120; n++) {
             x.feed(59);
         }
         x.drop(4);
@@ -269,29 +269,32 @@ public final class RefusedTest {
         String[] texts = {"", "x", "h6;", "h0;", "h0;f1,0;f", "h0;f1,0;f1,0;f1,0;f1,0;f1,0;f1,0;f", "h0;f1,0;o1;o1;o1;o1;o",
             "h0;f1,0;o41;"};
         int[] places = {0, 0, 1, 3, 9, 33, 20, 9};
-        Looked[] due = look(() -> readOn(midst(), "x"), null, 0);
+        Looked[] due = look(RefusedTest::emptyTape, null, 0);
         int status = midst().status();
         for (int i = 0; i < texts.length; i++) {
             String text = texts[i];
-            HatOrders x = emptied();
+            HatOrders x = emptyTape();
             Check.feed(x, text);
             check.due("town() of '" + text + "'", x.town(), Check.FAULT - places[i]);
             check.due("status() behind '" + text + "'", x.status(), status);
-            dueLooks("town() of '" + text + "'", due, look(() -> readOn(readOn(midst(), text), "x"), null, 0));
+            dueLooks("town() of '" + text + "'", due, look(() -> faultAndFault(text), null, 0));
         }
     }
 
-    /** midst() whose own tape is read, which is whole and would be a TOWN: so it is spoilt first. */
-    private static HatOrders emptied() {
-        return readOn(midst(), "x");
+    /** What midst() has on the tape would be a TOWN: it is spoilt, and read. */
+    private static HatOrders emptyTape() {
+        HatOrders x = midst();
+        x.feed('x');
+        x.town();
+        return x;
     }
 
-    private static HatOrders readOn(HatOrders x, String text) {
-        if (x.count(7) > 0) {
-            x.feed('x');
-            x.town();
-        }
+    /** The last FAULT is that of emptyTape(), so that fault() is alike, too. */
+    private static HatOrders faultAndFault(String text) {
+        HatOrders x = emptyTape();
         Check.feed(x, text);
+        x.town();
+        x.feed('x');
         x.town();
         return x;
     }

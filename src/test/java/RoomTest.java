@@ -61,12 +61,15 @@ public final class RoomTest {
     private static void callsMakeNothing() {
         com.sun.management.ThreadMXBean meter = (com.sun.management.ThreadMXBean) ManagementFactory.getThreadMXBean();
         long thread = Thread.currentThread().getId();
-        HatOrders x = new HatOrders();
+        HatOrders[] all = new HatOrders[1000];
+        for (int i = 0; i < all.length; i++) {
+            all[i] = new HatOrders();
+        }
         byte[] text = "h2;f2,1;s1,2;t1,3;w1,0;b1,4;o9;o8;".getBytes();
-        everyCall(x, text);
+        everyCall(new HatOrders(), text);
         meter.getThreadAllocatedBytes(thread);
         long before = meter.getThreadAllocatedBytes(thread);
-        for (int i = 0; i < 1000; i++) {
+        for (HatOrders x : all) {
             everyCall(x, text);
         }
         long made = meter.getThreadAllocatedBytes(thread) - before;

@@ -28,6 +28,8 @@ public final class StepEdgesTest {
         actsOfAllSorts();
         undoneAndDoneAgain();
         whatsByNumber();
+        whoHasTheHat();
+        howOrdersAre();
         check.finish("StepEdgesTest");
     }
 
@@ -413,5 +415,45 @@ public final class StepEdgesTest {
         check.dueOnlyBetween("hat(..)", 0, 3, x::hat);
         check.dueOnlyBetween("count(..)", 0, 7, x::count);
         check.dueOnlyBetween("count(..), no town", 0, 7, v -> new HatOrders().count(v));
+    }
+
+    private static void whoHasTheHat() {
+        check.promise("'2 whether it has the hat (1, 0), 3 how much it has done so far'");
+        HatOrders x = Check.townOf("h1;f1,1;w1,1;s1,1;b1,1;t1,1;f1,0;o40;");
+        for (int n = 0; n < 8; n++) {
+            int who = x.hat(0);
+            int sum = 0;
+            for (int head = 0; head < 6; head++) {
+                check.due("head(" + head + ", 2) behind " + n, x.head(head, 2), head == who ? 1 : 0);
+                sum += x.head(head, 3);
+            }
+            check.due("done by all behind " + n, sum, 40 - x.orderHas(0, 1));
+            int done = x.head(who, 3);
+            x.steps(1);
+            check.due("done by " + who + " behind " + (n + 1), x.head(who, 3), done + (who == 5 ? 0 : 1));
+        }
+    }
+
+    private static void howOrdersAre() {
+        check.promise("'2 whether it is out (0), DONE (1), taken BACK (2)'; '3 ORDERS that are out, 4 DONE'");
+        HatOrders x = Check.townOf("h0;f9,1;o1;o2;o3;");
+        x.steps(1);
+        x.back(1);
+        int[][] has = {{1, 0, 1}, {2, 2, 2}, {3, 3, 0}};
+        for (int order = 0; order < 3; order++) {
+            for (int what = 0; what < 3; what++) {
+                check.due("orderHas(" + order + ", " + what + ")", x.orderHas(order, what), has[order][what]);
+            }
+        }
+        check.due("count(2)", x.count(2), 3);
+        check.due("count(3)", x.count(3), 1);
+        check.due("count(4)", x.count(4), 1);
+        x.undo();
+        x.undo();
+        for (int order = 0; order < 3; order++) {
+            check.due("orderHas(" + order + ", 2), undone", x.orderHas(order, 2), 0);
+        }
+        check.due("count(3), undone", x.count(3), 3);
+        check.due("count(4), undone", x.count(4), 0);
     }
 }
