@@ -1,5 +1,7 @@
 import java.lang.reflect.InvocationTargetException;
 import java.lang.reflect.Method;
+import java.util.Arrays;
+import java.util.Comparator;
 import java.util.HashMap;
 import java.util.Map;
 
@@ -18,6 +20,13 @@ final class Calls {
             }
         }
         return found;
+    }
+
+    /** In the order of their names, so that a run drawn by numbers is the same each time. */
+    static Method[] all() {
+        Method[] methods = FACE.values().toArray(new Method[0]);
+        Arrays.sort(methods, Comparator.comparing(Method::getName));
+        return methods;
     }
 
     static int make(HatOrders x, String told) {
